@@ -27,8 +27,6 @@ public final class AnalogDays {
     private static final int GAP_RULE = 4;
     private static final int FEW_RULE = 5;
 
-    private static final int TALLIES = 8;
-
     private final Book book;
     private final States states;
     private final Likeness likeness;
@@ -115,7 +113,12 @@ public final class AnalogDays {
         if (!book.has(t) || k < 0 || !isWithin(what, 0, 1)) {
             return refuseBad(BAD);
         }
-        return tellNearest(t, k, what);
+        likeness.learn(book, NONE);
+        if (k >= likeness.nearOnes(t, book.few())) {
+            return NONE;
+        }
+        int u = likeness.near(t, k);
+        return what == 0 ? u : bitsOrNone(likeness.between(t, u));
     }
 
     public int likes(int t) {
@@ -314,16 +317,32 @@ public final class AnalogDays {
     }
 
     public int told(int what) {
-        if (!isWithin(what, 0, TALLIES - 1)) {
-            return refuseBad(BAD);
+        switch (what) {
+            case 0:
+                return timesBad;
+            case 1:
+                return timesNo;
+            case 2:
+                return timesFull;
+            case 3:
+                return text.length();
+            case 4:
+                return book.days();
+            case 5:
+                return book.gap();
+            case 6:
+                return book.few();
+            case 7:
+                return states.count();
+            default:
+                return refuseBad(BAD);
         }
-        return tally(what);
     }
 
     public long digest() {
         long h = 2161L;
-        for (int what = 0; what < TALLIES; what++) {
-            h = 31L * h + tally(what);
+        for (int what = 0; what < 8; what++) {
+            h = 31L * h + told(what);
         }
         for (int m = 0; m < MEMBERS; m++) {
             h = 31L * h + book.rule(m);
@@ -334,11 +353,10 @@ public final class AnalogDays {
             }
         }
         for (int t = 0; t < book.days(); t++) {
-            h = 31L * h + tellNearest(t, 0, 0);
-            h = 31L * h + tellNearest(t, 0, 1);
+            h = 31L * h + nearest(t, 0, 0);
+            h = 31L * h + nearest(t, 0, 1);
         }
-        likeness.learn(book, NONE);
-        return 31L * h + bitsOrNone(meanError(0, book.few()));
+        return 31L * h + errs(0);
     }
 
     // ---- what the calls share
@@ -357,36 +375,6 @@ public final class AnalogDays {
     private void keepState() {
         states.push(book);
         likeness.forget();
-    }
-
-    private int tally(int what) {
-        switch (what) {
-            case 0:
-                return timesBad;
-            case 1:
-                return timesNo;
-            case 2:
-                return timesFull;
-            case 3:
-                return text.length();
-            case 4:
-                return book.days();
-            case 5:
-                return book.gap();
-            case 6:
-                return book.few();
-            default:
-                return states.count();
-        }
-    }
-
-    private int tellNearest(int t, int k, int what) {
-        likeness.learn(book, NONE);
-        if (k >= likeness.nearOnes(t, book.few())) {
-            return NONE;
-        }
-        int u = likeness.near(t, k);
-        return what == 0 ? u : bitsOrNone(likeness.between(t, u));
     }
 
     private void gatherFollowers(int t, int m) {
@@ -752,9 +740,10 @@ public final class AnalogDays {
             int kept = 0;
             for (int u = 0; u + 1 < days; u++) {
                 boolean barred = Math.abs(u - t) <= gap || u + 1 == t;
-                if (!barred && between(t, u) >= 0f) {
+                float apart = distances[t * MOST_DAYS + u];
+                if (!barred && apart >= 0f) {
                     like++;
-                    kept = enter(t, u, kept);
+                    kept = enter(t, u, apart, kept);
                 }
             }
             likeCounts[t] = like;
@@ -762,9 +751,8 @@ public final class AnalogDays {
         }
 
         /** Puts u behind those that are not farther, so that of like ones the least stay ahead. */
-        private int enter(int t, int u, int kept) {
+        private int enter(int t, int u, float apart, int kept) {
             int row = t * MOST_FEW;
-            float apart = between(t, u);
             int place = kept;
             for (; place > 0 && apart < between(t, nearDays[row + place - 1]); place--) {
                 if (place < MOST_FEW) {

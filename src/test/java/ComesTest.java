@@ -144,6 +144,14 @@ public final class ComesTest {
         s = (double) 0.1f + (double) 0.2f + (double) 99.7f;
         r = (double) 0.1f * (double) 0.1f + (double) 0.2f * (double) 0.2f + (double) 99.7f * (double) 99.7f;
         due.doubleIs("VALUES are floats first", x.spread(0, 1), r / 3 - s / 3 * (s / 3));
+        x.rules(5, 2);
+        s = (double) 0.1f + (double) 0.2f;
+        r = (double) 0.1f * (double) 0.1f + (double) 0.2f * (double) 0.2f;
+        due.doubleIs("below 1", x.spread(0, 1), r / 2 - s / 2 * (s / 2));
+        x.sets(4, 1, 1 + 20);
+        s = (double) 0.1f + (double) 2.1f;
+        r = (double) 0.1f * (double) 0.1f + (double) 2.1f * (double) 2.1f;
+        due.doubleIs("by 1", x.spread(0, 1), r / 2 - s / 2 * (s / 2));
         x.rules(5, 1);
         due.is("of one", x.spread(0, 1), 0);
     }
@@ -181,6 +189,7 @@ public final class ComesTest {
         due.is("six have what came", x.holds(1, 0, 0), 6);
         due.is("20 and 3 are out of the spans of the others", x.holds(1, 0, 1), 4);
         due.is("cut", x.holds(1, 0, 2), 666);
+        due.is("all of them", x.holds(0, 0, 2), 1000);
         due.is("none asked", x.holds(3, 0, 0), 0);
         due.is("none asked", x.holds(3, 0, 2), 0);
     }

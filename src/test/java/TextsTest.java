@@ -208,7 +208,7 @@ public final class TextsTest {
         x.rules(5, 7);
         long before = x.digest();
         x.sets(49, 3, 5);
-        x.rules(5, 1);
+        x.rules(0, 80);
         x.empties();
         x.draw(1, 20);
         Due.read(x, "1,2,3,4;");
