@@ -422,7 +422,7 @@ public final class AnalogDays {
         return isMember(what) && isWithin(v, 0, MOST_WEIGHT);
     }
 
-    /** Of two floats below 0 of which means that there is none. */
+    /** Of two floats, where one below 0 means that there is none. */
     private static boolean isLess(float a, float b) {
         return a >= 0f && (b < 0f || a < b);
     }
