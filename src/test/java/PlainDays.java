@@ -338,15 +338,20 @@ final class PlainDays {
         return all / n;
     }
 
+    /** What errs(m) would be by a FEW, also by one that rules() refuses. */
+    float errsByFew(int m, int few) {
+        int[] by = rules.clone();
+        by[5] = few;
+        return errs(m, by);
+    }
+
     private long best(int m, int what) {
         member(m);
         within(what, 0, 1);
         int few = -1;
         float least = Float.NaN;
         for (int k = 12; k >= 1; k--) {
-            int[] by = rules.clone();
-            by[5] = k;
-            float error = errs(m, by);
+            float error = errsByFew(m, k);
             if (!Float.isNaN(error) && !(error > least)) {
                 few = k;
                 least = error;
