@@ -452,7 +452,7 @@ public final class AnalogDays {
             part = part * 2f;
         }
         int bits = (exponent << 23) | (int) ((part - 1f) * 8388608f);
-        return x < 0f ? bits | Integer.MIN_VALUE : bits;
+        return x < 0f ? bits | (1 << 31) : bits;
     }
 
     /** As floatBits. */
@@ -469,7 +469,7 @@ public final class AnalogDays {
             part = part * 2.0;
         }
         long bits = ((long) exponent << 52) | (long) ((part - 1.0) * 4503599627370496.0);
-        return x < 0.0 ? bits | Long.MIN_VALUE : bits;
+        return x < 0.0 ? bits | (1L << 63) : bits;
     }
 
     /** The DAYS and the rules: all that a STATE brings back. */

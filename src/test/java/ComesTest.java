@@ -243,14 +243,12 @@ public final class ComesTest {
         // DAY 0 has 0 and 3 for 1; DAY 1 has 3 for 0; DAY 2 has 1 for 3: errors of 1/2, 3 and 2
         due.floatIs("errs(1)", x.errs(1), 5.5f / 3f);
         due.is("errs(0)", x.errs(0), 0);
-        AnalogDays y = new AnalogDays();
-        y.draw(99, 50);
         for (int m = 0; m < 4; m++) {
+            AnalogDays y = new AnalogDays();
+            y.draw(99, 50);
             due.floatIs("drawn: errs(" + m + ")", y.errs(m), errsByMeans(y, m));
-        }
-        y.rules(5, 9);
-        y.rules(4, 5);
-        for (int m = 0; m < 4; m++) {
+            y.rules(5, 9);
+            y.rules(4, 5);
             due.floatIs("drawn, FEW 9, GAP 5: errs(" + m + ")", y.errs(m), errsByMeans(y, m));
         }
     }

@@ -28,6 +28,11 @@ public final class FaceTest {
         "\\bfinally\\b", "\\bsynchronized\\b", "\\bassert\\b", "->", "::", "\\bThread\\b", "\\bRandom\\b", "System\\.(?!arraycopy\\()",
         "\\bjava\\.(?!util\\.Arrays;)", "\\bstatic \\{", "\\bpackage\\b", "\\bObject\\b", "\\bMap\\b", "\\bvar\\b"};
 
+    /** Rule 4: of the library's classes, functions and no fields, and of these only what the class has use for. */
+    private static final Pattern LIBRARY = Pattern.compile(
+        "\\b(Integer|Long|Short|Byte|Character|Boolean|Float|Double|Math|System|Arrays|String|StringBuilder|List|ArrayList)\\.\\w+\\(?");
+    private static final Set<String> USED = Set.of("Math.max(", "Math.min(", "Math.abs(", "Arrays.fill(", "System.arraycopy(");
+
     public static void main(String[] args) throws Exception {
         constants();
         publicMembers();
@@ -114,6 +119,10 @@ public final class FaceTest {
             for (String barred : BARRED) {
                 Matcher found = Pattern.compile(barred).matcher(code);
                 due.holds("line " + (i + 1) + " has no " + barred, !found.find());
+            }
+            Matcher library = LIBRARY.matcher(code);
+            while (library.find()) {
+                due.holds("line " + (i + 1) + " may use " + library.group(), USED.contains(library.group()));
             }
             due.holds("line " + (i + 1) + " is of signs 32 to 126", line.matches("[ -~]*"));
             if (code.matches(" +((public|private|static) )*[\\w\\[\\]]+ \\w+\\(.*\\) \\{")) {

@@ -34,6 +34,11 @@ final class PlainDays {
         }
     }
 
+    /** In eighths; the face tells it by rules() alone, which changes it. */
+    int weight(int m) {
+        return rules[m];
+    }
+
     private long answer(String name, int... a) {
         switch (name) {
             case "day": return day(a);

@@ -1,55 +1,37 @@
-import java.lang.reflect.Method;
 import java.util.ArrayDeque;
-import java.util.Arrays;
 import java.util.Deque;
-import java.util.HashMap;
-import java.util.Map;
 import java.util.Random;
 
 /** All promises: runs of 512 chance calls, each answered as PlainDays answers it. */
 public final class RandomRunsTest {
     private static final int RUNS = 120;
-    private static final int CALLS = 512;
     private static final String[] TEXTS = {"1,2,3,4;", "-5,.,999,0;", " . , -12 ,3, . ; ", ".,.,.,.;", "007,-070,1,2;",
         "1,2,3;", "1000,1,1,1;", "-1234,1,1,1;", "-,1,1,1;", "1 2,3,4,5;", ";", " ", "1,2,3,4", "1,2,3,4,5;", "--1", "-"};
 
     private final Random random;
-    private final Map<String, Method> face = new HashMap<>();
     private final Deque<Integer> toType = new ArrayDeque<>();
     private int days;
 
     private RandomRunsTest(int seed) {
         random = new Random(seed);
-        for (Method method : AnalogDays.class.getDeclaredMethods()) {
-            if (java.lang.reflect.Modifier.isPublic(method.getModifiers())) {
-                face.put(method.getName(), method);
-            }
-        }
     }
 
-    public static void main(String[] args) throws Exception {
+    public static void main(String[] args) {
         Due due = new Due();
         for (int seed = 0; seed < RUNS && !due.isFailed(); seed++) {
-            new RandomRunsTest(seed).run(seed, due);
+            new RandomRunsTest(seed).run(new Beside("run " + seed, due), due);
         }
         due.end();
     }
 
-    private void run(int seed, Due due) throws Exception {
-        AnalogDays x = new AnalogDays();
-        PlainDays plain = new PlainDays();
-        String[] names = face.keySet().stream().sorted().toArray(String[]::new);
-        for (int i = 0; i < CALLS && !due.isFailed(); i++) {
+    private void run(Beside book, Due due) {
+        String[] names = Beside.names();
+        while (book.left() > 1 && !due.isFailed()) {
             String name = pick(names);
-            int[] a = arguments(name);
-            Object[] boxed = Arrays.stream(a).boxed().toArray();
-            long want = plain.call(name, a);
-            long got = ((Number) face.get(name).invoke(x, boxed)).longValue();
-            due.is("run " + seed + ", call " + i + ": " + name + Arrays.toString(a), got, want);
-            days = (int) plain.call("told", 4);
-            x.told(4);
+            book.call(name, arguments(name));
+            days = book.told(4);
         }
-        due.is("run " + seed + ": digest", x.digest(), plain.call("digest"));
+        book.call("digest");
     }
 
     private String pick(String[] names) {
