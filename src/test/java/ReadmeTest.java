@@ -19,7 +19,7 @@ import java.util.regex.Pattern;
 import java.util.stream.Stream;
 import javax.tools.ToolProvider;
 
-/** README.md: its example compiles and answers as it says, and its tables are true. */
+/** README.md: its example compiles and answers as it says; of its tables, the rows and what they say of S and of refusals. */
 public final class ReadmeTest {
     private static final Pattern BLOCK = Pattern.compile("```java\n(.*?)```", Pattern.DOTALL);
     private static final Pattern SHOWN = Pattern.compile("^ *show\\(.*\\); +// (.*)$");
